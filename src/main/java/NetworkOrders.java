@@ -16,6 +16,7 @@ public final class NetworkOrders {
     private static final int MOST_PART = 9;
     private static final int MOST_PEAK = 12;
     private static final int OTHERS_FROM = 100;
+    private static final int ABOVE_ANY_GROWTH = 1 << 30;
 
     private final Tensor[] tensors;
     private final int[] uses;
@@ -167,7 +168,8 @@ public final class NetworkOrders {
         if (!isReady() || (cut & ~namesUsed(2)) != 0) {
             return NONE;
         }
-        return orderWhenCut(cut).allCosts << Integer.bitCount(cut);
+        Order order = cut == 0 ? orderOfAll() : orderWhenCut(cut);
+        return order.allCosts << Integer.bitCount(cut);
     }
 
     public int total(int what) {
@@ -256,9 +258,6 @@ public final class NetworkOrders {
     }
 
     private Order orderWhenCut(int cut) {
-        if (cut == 0) {
-            return orderOfAll();
-        }
         if (leftKnownFor != cut) {
             findOrder(left, cut);
             leftKnownFor = cut;
@@ -528,7 +527,7 @@ public final class NetworkOrders {
 
         /** The lesser number leads and only less growth wins, so the first of equals stays. */
         private void choose(int turn, int things) {
-            int least = Integer.MAX_VALUE;
+            int least = ABOVE_ANY_GROWTH;
             for (int one = 0; one < things; one++) {
                 for (int two = one + 1; two < things && !isIn(one, gone); two++) {
                     int size = 1 << Integer.bitCount(legs[one] ^ legs[two]);

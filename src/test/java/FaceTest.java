@@ -33,11 +33,13 @@ public final class FaceTest {
 
     private static void members() {
         Set<String> found = new TreeSet<>();
+        Set<String> names = new TreeSet<>();
         for (Method method : NetworkOrders.class.getDeclaredMethods()) {
             if (!Modifier.isPrivate(method.getModifiers())) {
                 found.add(shape(method));
                 Check.due(method + " is public", Modifier.isPublic(method.getModifiers()), true);
             }
+            Check.due(method + " bears a name of its own", names.add(method.getName()), true);
         }
         Check.due("the face: " + found, found.equals(new TreeSet<>(Arrays.asList(FACE))), true);
         Check.due("final", Modifier.isFinal(NetworkOrders.class.getModifiers()), true);
