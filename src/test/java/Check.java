@@ -7,6 +7,7 @@ final class Check {
     static final long ARITHMETIC = Long.MIN_VALUE + 2;
     private static int checked = 0;
     private static int wrong = 0;
+    private static String sentence = "";
 
     private Check() {
     }
@@ -16,7 +17,7 @@ final class Check {
         if (got != want) {
             wrong++;
             if (wrong <= 50) {
-                System.out.println(what + " answered " + got + ", due is " + want);
+                System.out.println(sentence + what + " answered " + got + ", due is " + want);
             }
         }
     }
@@ -32,8 +33,29 @@ final class Check {
         } catch (NoSuchElementException e) {
             return e.getClass() == NoSuchElementException.class ? NO_SUCH : Long.MIN_VALUE;
         } catch (ArithmeticException e) {
-            return ARITHMETIC;
+            return e.getClass() == ArithmeticException.class ? ARITHMETIC : Long.MIN_VALUE;
         }
+    }
+
+    static void noSuch(String what, LongSupplier call) {
+        due(what, answer(call), NO_SUCH);
+    }
+
+    static void arithmetic(String what, LongSupplier call) {
+        due(what, answer(call), ARITHMETIC);
+    }
+
+    /** The test of one sentence of the document; whatever ends it early leaves the others to run. */
+    static void sentence(String words, Runnable test) {
+        int before = checked;
+        sentence = "[" + words + "] ";
+        try {
+            test.run();
+        } catch (RuntimeException | Error e) {
+            due("ended by " + e, 1, 0);
+        }
+        due("asks something", checked > before, true);
+        sentence = "";
     }
 
     static void end() {

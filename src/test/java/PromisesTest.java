@@ -48,18 +48,8 @@ public final class PromisesTest {
         Check.due(what, Check.answer(call), want);
     }
 
-    /** Tensors with these names at their places, all entries 0. */
     private static NetworkOrders network(int[]... names) {
-        NetworkOrders x = new NetworkOrders();
-        for (int[] row : names) {
-            int number = x.tensor(row.length);
-            for (int place = 0; place < row.length; place++) {
-                if (!x.leg(number, place, row[place])) {
-                    throw new IllegalStateException("a wrong example");
-                }
-            }
-        }
-        return x;
+        return Nets.network(names);
     }
 
     private static int[] t(int... names) {
@@ -83,18 +73,7 @@ public final class PromisesTest {
     }
 
     private static void notReady(String what, NetworkOrders x) {
-        due(what + " open", x.open(), -1);
-        due(what + " cost", x.cost(), -1);
-        due(what + " peak", x.peak(), -1);
-        due(what + " step", x.step(0, 0), -1);
-        due(what + " greedy all", x.greedy(-1), -1);
-        due(what + " greedy 0", x.greedy(0), -1);
-        due(what + " greedy 100", x.greedy(100), -1);
-        due(what + " cut", x.cut(20), -1);
-        due(what + " costOf", x.costOf(0), -1);
-        due(what + " shared", x.total(3), 0);
-        dueThrow(what + " value", () -> x.value(0, 0), Check.NO_SUCH);
-        dueThrow(what + " slope", () -> x.slope(0, 0, 0, 0), Check.NO_SUCH);
+        Nets.dueNotReady(what, x);
     }
 
     private static void tensors() {
