@@ -449,8 +449,8 @@ public final class NetworkOrders {
             int least = set ^ rest;
             int lowest = bound + 1;
             int bestFirst = least;
-            // (more - rest) & rest is the next greater subset of rest, so the least part leads.
-            for (int more = 0; more < rest; more = (more - rest) & rest) {
+            int more = 0;
+            for (int ways = (1 << Integer.bitCount(rest)) - 1; ways > 0; ways--) {
                 int first = least | more;
                 int second = rest ^ more;
                 int sum = costs[first] + costs[second];
@@ -461,6 +461,8 @@ public final class NetworkOrders {
                         bestFirst = first;
                     }
                 }
+                // This is the next greater subset of rest: so the least part leads.
+                more = (more - rest) & rest;
             }
             costs[set] = lowest;
             firsts[set] = bestFirst;

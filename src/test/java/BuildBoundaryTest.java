@@ -61,6 +61,7 @@ public final class BuildBoundaryTest {
     private static void clearAndOpen() {
         Check.sentence("P5: All TENSORS are gone, empty", BuildBoundaryTest::clearOfNothing);
         Check.sentence("P5: All TENSORS are gone, full", BuildBoundaryTest::clearOfAFullOne);
+        Check.sentence("P5: All TENSORS are gone, their PLACES too", BuildBoundaryTest::clearForgetsBarePlaces);
         Check.sentence("P5: All TENSORS are gone, their LEGS too", BuildBoundaryTest::clearFreesNames);
         Check.sentence("P5: All TENSORS are gone, their ENTRIES too", BuildBoundaryTest::clearForgetsEntries);
         Check.sentence("P5: All TENSORS are gone, their ORDER too", BuildBoundaryTest::clearForgetsOrders);
@@ -489,9 +490,10 @@ public final class BuildBoundaryTest {
     private static void clearOfNothing() {
         NetworkOrders x = new NetworkOrders();
         x.clear();
-        x.clear();
         Check.due("tensors", x.total(0), 0);
         Nets.dueNotReady("cleared", x);
+        x.clear();
+        Check.due("tensors, cleared twice", x.total(0), 0);
         Check.due("the first", x.tensor(0), 0);
     }
 
@@ -507,6 +509,20 @@ public final class BuildBoundaryTest {
         }
         Check.due("no eleventh", x.tensor(0), NONE);
         Check.due("of the new ones", x.cost(), 9);
+    }
+
+    private static void clearForgetsBarePlaces() {
+        NetworkOrders x = new NetworkOrders();
+        x.tensor(6);
+        x.tensor(1);
+        x.leg(1, 0, 3);
+        x.clear();
+        Check.due("places", x.total(1), 0);
+        Check.due("bare places", x.total(2), 0);
+        x.tensor(0);
+        Check.due("ready", x.open(), 0);
+        x.tensor(2);
+        Check.due("bare places of the new ones", x.total(2), 2);
     }
 
     private static void clearFreesNames() {

@@ -162,6 +162,13 @@ public final class CutBoundaryTest {
         x.tensor(1);
         x.leg(1, 0, 5);
         Check.due("shared", x.cut(0), 1 << 5);
+        Check.due("no cut is needed", x.cut(1), 0);
+        x.leg(1, 0, 6);
+        Check.due("no cut helps", x.cut(1), NONE);
+        NetworkOrders y = Nets.network(Nets.t(2, 5), Nets.t(2, 5));
+        Check.due("one helps", y.cut(1), 1 << 2);
+        y.leg(1, 1, 7);
+        Check.due("it does not help any more", y.cut(1), NONE);
     }
 
     private static void cutChangesNothing() {
@@ -272,6 +279,7 @@ public final class CutBoundaryTest {
 
     private static void costOfChangesNothing() {
         NetworkOrders x = Nets.fourWithEachOther();
+        Check.due("cost before", x.cost(), 72);
         Check.due("a cut", x.costOf(63), 64 * 3);
         Check.due("refused", x.costOf(64), NONE);
         Check.due("cost", x.cost(), 72);

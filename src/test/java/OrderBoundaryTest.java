@@ -46,6 +46,7 @@ public final class OrderBoundaryTest {
     private static void step() {
         Check.sentence("P11: STEP i, first and last of ten", OrderBoundaryTest::stepsOfTen);
         Check.sentence("P11: side 0: the first part, 1: the second one", OrderBoundaryTest::bothSides);
+        Check.sentence("P11: STEP i, as the network is now", OrderBoundaryTest::stepsBehindAChange);
         Check.sentence("P11: NONE if there is none such, too small", OrderBoundaryTest::stepTooSmall);
         Check.sentence("P11: NONE if there is none such, too large", OrderBoundaryTest::stepTooLarge);
         Check.sentence("P11: NONE if there is none such, side", OrderBoundaryTest::stepOfNoSide);
@@ -54,18 +55,22 @@ public final class OrderBoundaryTest {
     }
 
     private static void greedyTerms() {
-        Check.sentence("GREEDY: less 2^(the LEGS of the one) less 2^(of the other) is least",
-                OrderBoundaryTest::leastGrowthNotLeastCost);
+        Check.sentence("GREEDY: 2^(the LEGS of both together as one set)", OrderBoundaryTest::growthOfWhatIsMade);
+        Check.sentence("GREEDY: less 2^(the LEGS of the one)", OrderBoundaryTest::growthLessTheOne);
+        Check.sentence("GREEDY: less 2^(of the other)", OrderBoundaryTest::growthLessTheOther);
+        Check.sentence("GREEDY: each counts once", OrderBoundaryTest::eachCountsOnce);
+        Check.sentence("GREEDY: is least, not the COST", OrderBoundaryTest::leastGrowthNotLeastCost);
         Check.sentence("GREEDY: the lesser number first, the least first", OrderBoundaryTest::lesserNumberLeads);
         Check.sentence("GREEDY: then the other one", OrderBoundaryTest::otherNumberFollows);
         Check.sentence("GREEDY: TENSORS, then what is made", OrderBoundaryTest::madeThingsAreNumbered);
-        Check.sentence("GREEDY: the LEGS of both together as one set", OrderBoundaryTest::loopsDoNotGrow);
+        Check.sentence("GREEDY: a LEG that is twice in one TENSOR", OrderBoundaryTest::loopsDoNotGrow);
         Check.sentence("GREEDY: again and again, nothing SHARED", OrderBoundaryTest::greedyOfTwentyOpen);
     }
 
     private static void greedy() {
         Check.sentence("P12: what NONE: all COSTS", OrderBoundaryTest::greedyCosts);
         Check.sentence("P12: the first and the last turn of ten", OrderBoundaryTest::greedyOfTen);
+        Check.sentence("P12: GREEDY, as the network is now", OrderBoundaryTest::greedyBehindAChange);
         Check.sentence("P12: no such turn, too large", OrderBoundaryTest::turnTooLarge);
         Check.sentence("P12: no such turn, 100 + too large", OrderBoundaryTest::otherTurnTooLarge);
         Check.sentence("P12: no such turn, too small", OrderBoundaryTest::turnTooSmall);
@@ -279,6 +284,18 @@ public final class OrderBoundaryTest {
         Check.due("1", x.step(0, 1), 2);
     }
 
+    private static void stepsBehindAChange() {
+        NetworkOrders x = Nets.network(Nets.t(1, 2), Nets.t(2, 3), Nets.t(3));
+        dueStep(x, 0, 2, 4);
+        dueStep(x, 1, 1, 6);
+        x.leg(1, 1, 4);
+        x.leg(2, 0, 1);
+        dueStep(x, 0, 1, 4);
+        dueStep(x, 1, 5, 2);
+        x.tensor(0);
+        dueStep(x, 2, 7, 8);
+    }
+
     private static void stepTooSmall() {
         NetworkOrders x = Nets.fullRing();
         Check.due("-1", x.step(-1, 0), NONE);
@@ -341,6 +358,39 @@ public final class OrderBoundaryTest {
     }
 
     // ---- greedy
+
+    /** 1 and 3 leave two legs of five: 4 - 16 - 16; 0 and 2 leave none of one: 1 - 2 - 2. */
+    private static void growthOfWhatIsMade() {
+        NetworkOrders x = Nets.network(Nets.t(5), Nets.t(0, 1, 2, 3), Nets.t(5), Nets.t(0, 1, 2, 4));
+        dueTurn(x, 0, 1, 3);
+        dueTurn(x, 1, 0, 2);
+        dueTurn(x, 2, 4, 5);
+        Check.due("costs", x.greedy(NONE), 32 + 2 + 4);
+    }
+
+    /** 0 and 2: 8 - 16 - 2, the others: -1. Without the first one's legs 1 and 2 would lead. */
+    private static void growthLessTheOne() {
+        NetworkOrders x = Nets.network(Nets.t(0, 1, 2, 3), Nets.t(), Nets.t(0));
+        dueTurn(x, 0, 0, 2);
+        dueTurn(x, 1, 1, 3);
+    }
+
+    /** 0 and 2: 8 - 2 - 16, the others: -1. Without the second one's legs 0 and 1 would lead. */
+    private static void growthLessTheOther() {
+        NetworkOrders x = Nets.network(Nets.t(0), Nets.t(), Nets.t(0, 1, 2, 3));
+        dueTurn(x, 0, 0, 2);
+        dueTurn(x, 1, 1, 3);
+    }
+
+    /** What is made counts no more, and what is joined no more, than once. */
+    private static void eachCountsOnce() {
+        // 0 and 2: 1 - 2 - 2, 1 and 3: 8 - 8 - 4; with what is made twice: -2 and 4
+        NetworkOrders x = Nets.network(Nets.t(9), Nets.t(0, 1, 2), Nets.t(9), Nets.t(0, 3));
+        dueTurn(x, 0, 1, 3);
+        // 0 and 2: 1 - 2 - 2, 1 and 3: 16 - 8 - 8; with what is joined twice: -7 and -16
+        NetworkOrders y = Nets.network(Nets.t(9), Nets.t(0, 1, 2), Nets.t(9), Nets.t(0, 3, 4));
+        dueTurn(y, 0, 0, 2);
+    }
 
     /** Joining 0 and 2 costs 2, joining 1 and 3 costs 8: but three legs gone are more than one. */
     private static void leastGrowthNotLeastCost() {
@@ -406,6 +456,22 @@ public final class OrderBoundaryTest {
             dueTurn(x, turn, 2 * turn, 2 * turn + 1);
         }
         dueTurn(x, 9, NONE, NONE);
+    }
+
+    private static void greedyBehindAChange() {
+        NetworkOrders x = Nets.network(Nets.t(0), Nets.t(0), Nets.t(1), Nets.t(1));
+        dueTurn(x, 0, 0, 1);
+        dueTurn(x, 1, 2, 3);
+        Check.due("costs", x.greedy(NONE), 2 + 2 + 1);
+        x.leg(1, 0, 2);
+        x.leg(3, 0, 0);
+        x.leg(1, 0, 1);
+        dueTurn(x, 0, 0, 3);
+        dueTurn(x, 1, 1, 2);
+        x.tensor(0);
+        dueTurn(x, 2, 4, 5);
+        dueTurn(x, 3, 6, 7);
+        Check.due("costs of five", x.greedy(NONE), 2 + 2 + 1 + 1);
     }
 
     private static void turnTooLarge() {
