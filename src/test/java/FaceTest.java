@@ -8,6 +8,7 @@ import java.nio.file.Path;
 import java.util.Arrays;
 import java.util.Set;
 import java.util.TreeSet;
+import java.util.regex.Matcher;
 import java.util.regex.Pattern;
 
 /** The public face is the document's and no more; the rules of the language that a text can show. */
@@ -19,7 +20,11 @@ public final class FaceTest {
     private static final String[] RULED_OUT = {
         "->", "::", "\\bcatch\\b", "\\bfinally\\b", "\\bassert\\b", "\\bsynchronized\\b", "Exact\\b", "\\bpackage\\b",
         "\\bMap\\b", "\\bSystem\\.(?!arraycopy)", "\\bThread\\b", "\\bRandom\\b", "\\bprintStackTrace\\b",
-        "\\bstatic\\s*\\{", "\\bstatic (?!final |\\w+ \\w+\\(|void |int |boolean |long )"};
+        "\\bstatic\\s*\\{", "\\bstatic (?!final |\\w+ \\w+\\(|void |int |boolean |long )", "[^\\x00-\\x7f]",
+        "\\bimport (?!java\\.util\\.(Arrays|NoSuchElementException);)", "\\bjava\\.(?!util\\.)", "\\bArrays\\.(?!fill\\()",
+        "\\bMath\\.(?!max\\()", "\\bInteger\\.(?!(bitCount|numberOfTrailingZeros)\\()", "\\btry\\b",
+        "\\bthrow (?!new (NoSuchElement|Arithmetic)Exception\\(\"[^\"]*\"\\);)", "\\bequals\\b", "\\bhashCode\\b"};
+    private static final int MOST_LINES = 60;
 
     public static void main(String[] args) throws IOException {
         members();
@@ -28,7 +33,22 @@ public final class FaceTest {
         for (String rule : RULED_OUT) {
             Check.due("ruled out: " + rule, Pattern.compile(rule).matcher(source).find(), false);
         }
+        methodsAreShort(source);
         Check.end();
+    }
+
+    /** A method ends at the brace that stands as deep as its first line. */
+    private static void methodsAreShort(String source) {
+        Matcher head = Pattern.compile("(?m)^( +)(?:public|private) [^;=]*\\) [^;=]*\\{$").matcher(source);
+        int methods = 0;
+        while (head.find()) {
+            methods++;
+            String body = source.substring(head.start());
+            int end = body.indexOf("\n" + head.group(1) + "}");
+            long lines = body.substring(0, Math.max(0, end)).lines().count() + 1;
+            Check.due("short: " + head.group().trim(), end > 0 && lines <= MOST_LINES, true);
+        }
+        Check.due("methods are found", methods > FACE.length, true);
     }
 
     private static void members() {
@@ -40,6 +60,7 @@ public final class FaceTest {
                 Check.due(method + " is public", Modifier.isPublic(method.getModifiers()), true);
             }
             Check.due(method + " bears a name of its own", names.add(method.getName()), true);
+            Check.due(method + " has few parameters", method.getParameterCount() <= 7, true);
         }
         Check.due("the face: " + found, found.equals(new TreeSet<>(Arrays.asList(FACE))), true);
         Check.due("final", Modifier.isFinal(NetworkOrders.class.getModifiers()), true);

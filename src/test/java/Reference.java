@@ -18,6 +18,7 @@ final class Reference {
     }
 
     private static final class Best {
+        int legs;
         long cost;
         int first;
     }
@@ -125,14 +126,14 @@ final class Reference {
             return known.get(set);
         }
         Best best = new Best();
+        best.legs = withUses(set, cut, 1);
         if (Integer.bitCount(set) > 1) {
             best.cost = Long.MAX_VALUE;
             for (int first = set - 1; first > 0; first--) {
                 if ((first & set) == first && (first & Integer.lowestOneBit(set)) != 0) {
-                    int second = set - first;
-                    int both = withUses(first, cut, 1) | withUses(second, cut, 1);
-                    long cost = best(first, cut, known).cost + best(second, cut, known).cost
-                            + (1L << Integer.bitCount(both));
+                    Best one = best(first, cut, known);
+                    Best other = best(set - first, cut, known);
+                    long cost = one.cost + other.cost + (1L << Integer.bitCount(one.legs | other.legs));
                     if (cost <= best.cost) {
                         best.cost = cost;
                         best.first = first;

@@ -34,6 +34,12 @@ public final class ReferenceTest {
             build(8 + RANDOM.nextInt(3), 1 + RANDOM.nextInt(7), 20);
             askOrders();
         }
+        for (int i = 0; i < 24; i++) {
+            run = "large, to be cut " + i;
+            begin();
+            build(8 + i % 3, 5, 9 + RANDOM.nextInt(6));
+            askCuts(i % 4 == 0 ? 2 : 1);
+        }
         for (int i = 0; i < 300; i++) {
             run = "any " + i;
             begin();
